@@ -20,6 +20,7 @@ public final class AskTests {
         remembered();
         grey();
         unseen();
+        unseenFirst();
         house();
         counted();
         knock();
@@ -69,14 +70,30 @@ public final class AskTests {
         heap.make(1, 0, false);
         heap.begin();
         heap.step(1);
-        heap.keep();
+        due.is(20, "how many", heap.keep(), 2);
         heap.step(60);
         heap.collect(true);
         heap.barrier(2, true);
+        heap.begin();
         heap.back();
         due.is(21, "the cycle", heap.house(8) + " " + heap.house(9) + " " + heap.grey() + " " + heap.ofObject(0, 5), "1 1 1 2");
         due.is(21, "the barriers", heap.house(11) + " " + heap.house(12), "1 0");
         due.is(21, "it ends again", heap.step(60) + " " + heap.counted(3), "4 2");
+        Heapkeep pending = new Heapkeep();
+        pending.make(0, 0, true);
+        pending.local(0, -1);
+        pending.collect(false);
+        pending.keep();
+        pending.finish(-1);
+        pending.size(64);
+        due.is(22, "no picture", pending.same(), -9);
+        pending.make(0, 0, true);
+        pending.local(0, -1);
+        pending.collect(false);
+        pending.keep();
+        pending.finish(-1);
+        pending.back();
+        due.is(21, "pending", pending.waiting() + pending.ofObject(0, 7), ";02");
         Heapkeep young = new Heapkeep();
         young.keeper(4);
         young.make(0, 0, false);
@@ -111,6 +128,10 @@ public final class AskTests {
         due.is(22, "another object, the same shape", heap.same(), 1);
         heap.enter();
         due.is(22, "one frame more", heap.same(), 0);
+        heap.leave();
+        heap.local(1, 1);
+        heap.local(0, -1);
+        due.is(22, "as long, but another one", heap.same(), 0);
         heap.back();
         due.is(22, "back", heap.same(), 1);
     }
@@ -439,6 +460,20 @@ public final class AskTests {
         due.is(36, "a new one is black", heap.unseen(), "2");
         heap.refer(3, 2, 3);
         due.is(36, "held by fields alone", heap.unseen(), "2");
+    }
+
+    private static void unseenFirst() {
+        Heapkeep heap = new Heapkeep();
+        heap.keeper(5);
+        heap.make(0, 0, false);
+        heap.make(1, 1, false);
+        heap.store(1, 0, 0);
+        heap.local(0, -1);
+        heap.begin();
+        heap.load(2, 1, 0);
+        heap.make(3, 1, false);
+        heap.store(2, 0, 0);
+        due.is(36, "the first name", heap.unseen(), "0");
     }
 
     private static void house() {

@@ -21,7 +21,10 @@ public final class KeeperTests {
         smallWithoutOldRoom();
         begin();
         step();
+        stepByRoots();
         stepBySoft();
+        stepEndsByBlack();
+        stepEndsBySoft();
         stepEnds();
         stepLoses();
         barrier();
@@ -53,6 +56,11 @@ public final class KeeperTests {
         heap.small();
         due.is(12, "ages", heap.ofObject(3, 3) + " " + heap.ofObject(4, 3) + " " + heap.row(), "2 1 0:4 16:1 18:2 19:3");
         due.is(12, "the same one again", heap.keeper(4) + " " + heap.row(), "4 16:4 17:1 19:2 20:3");
+        Heapkeep first = new Heapkeep();
+        first.keeper(4);
+        first.make(0, 0, false);
+        first.small();
+        due.is(12, "the age of the first", first.ofObject(0, 3) + " " + first.keeper(4) + " " + first.ofObject(0, 3), "1 4 0");
         due.is(12, "ages", heap.ofObject(3, 3) + " " + heap.ofObject(4, 3), "0 0");
         heap.keeper(2);
         heap.collect(false);
@@ -485,6 +493,69 @@ public final class KeeperTests {
         due.is(16, "black ones are kept", heap.step(60) + " " + heap.house(0), 2 + 1 + 1 + 1 + 5 + " 5");
     }
 
+    /** A white one that a local holds alone is found as the roots are looked at again. */
+    private static void stepByRoots() {
+        Heapkeep heap = new Heapkeep();
+        heap.keeper(5);
+        heap.make(0, 1, false);
+        heap.make(1, 1, false);
+        heap.make(2, 2, false);
+        heap.store(1, 0, 2);
+        heap.store(0, 0, 1);
+        heap.local(1, -1);
+        heap.local(2, -1);
+        heap.begin();
+        heap.load(1, 0, 0);
+        heap.store(0, 0, -1);
+        due.is(16, "the row is empty", heap.step(2) + " " + heap.grey(), "2 ");
+        due.is(16, "the roots become grey again", heap.step(1) + " " + heap.grey(), "1 1");
+        due.is(16, "it goes on", heap.step(3) + " " + heap.house(8), 2 + 3 + " 1");
+        due.is(16, "the end", heap.step(1) + " " + heap.house(8) + heap.counted(5), 1 + 3 + " 00");
+    }
+
+    /** What a black one leads to is seen, though none is reached any more. */
+    private static void stepEndsByBlack() {
+        Heapkeep heap = new Heapkeep();
+        heap.keeper(5);
+        heap.make(0, 1, false);
+        heap.make(1, 1, false);
+        heap.make(2, 0, true);
+        heap.store(1, 0, 2);
+        heap.local(2, -1);
+        heap.make(3, 1, false);
+        heap.refer(2, 1, 3);
+        heap.begin();
+        heap.step(2);
+        heap.load(3, 1, 0);
+        heap.store(0, 0, 2);
+        heap.store(1, 0, -1);
+        heap.refer(3, 2, 1);
+        heap.local(0, -1);
+        heap.local(1, -1);
+        heap.local(3, -1);
+        heap.make(3, 0, false);
+        due.is(36, "white", heap.unseen(), "2");
+        heap.step(60);
+        due.is(16, "all are kept", heap.house(0) + " " + heap.house(8) + " " + heap.waiting(), "7 0 ;");
+        due.is(16, "none was lost", heap.counted(4) + heap.counted(5), 0);
+        heap.collect(false);
+        due.is(13, "till a whole one", heap.waiting() + " " + heap.row(), "4;2 4:2 7:4 11:6");
+        Heapkeep soft = new Heapkeep();
+        soft.keeper(5);
+        soft.make(0, 0, false);
+        soft.refer(1, 1, 0);
+        soft.make(3, 1, false);
+        soft.store(2, 0, 0);
+        soft.local(0, -1);
+        soft.begin();
+        soft.load(0, 2, 0);
+        soft.refer(0, 2, 0);
+        soft.store(2, 0, -1);
+        due.is(36, "held by no field", soft.unseen() + soft.grey() + soft.ofObject(0, 5), "1 20");
+        due.is(16, "the end", soft.step(60), 1 + 2 + 1 + 4);
+        due.is(16, "what is soft leads", soft.row() + soft.waiting(), "0:0 1:1 3:2 5:3;");
+    }
+
     private static void stepBySoft() {
         Heapkeep heap = new Heapkeep();
         heap.keeper(5);
@@ -520,6 +591,21 @@ public final class KeeperTests {
         due.is(16, "kept, for it was grey", heap.step(60) + " " + heap.waiting(), 2 + 2 + 1 + 1 + 4 + " 2;");
         heap.begin();
         due.is(16, "it goes", heap.step(60) + " " + heap.waiting() + " " + heap.counted(0), 2 + 1 + 4 + " 2 3; 2");
+    }
+
+    /** What is kept by a wish leads by what is soft, for no cycle is hard. */
+    private static void stepEndsBySoft() {
+        Heapkeep heap = new Heapkeep();
+        heap.keeper(5);
+        heap.make(0, 1, true);
+        heap.make(1, 0, false);
+        heap.refer(2, 2, 1);
+        heap.store(0, 0, 2);
+        heap.local(0, -1);
+        heap.local(1, -1);
+        heap.local(2, -1);
+        heap.begin();
+        due.is(16, "all are kept", heap.step(1) + " " + heap.house(0) + heap.waiting() + heap.ofObject(2, 9), 1 + 3 + " 3;01");
     }
 
     private static Heapkeep hidden(int store, boolean isRead) {
@@ -774,6 +860,9 @@ public final class KeeperTests {
         heap.load(1, 8, 0);
         heap.load(0, 8, 0);
         due.is(8, "all are held", heap.house(0), 3);
+        heap.make(2, 1, false);
+        heap.load(2, 9, 0);
+        due.is(8, "what a local held goes", heap.house(0) + " " + heap.ofObject(9, 0), "3 -9");
         heap.global(1, -1);
         due.is(6, "what a local held goes", heap.row(), "1:5 4:8");
         heap.leave();

@@ -17,7 +17,7 @@ public final class ModelTests {
         {"make", 30}, {"refer", 8}, {"local", 14}, {"global", 3}, {"store", 26}, {"load", 8},
         {"get", 5}, {"enter", 2}, {"leave", 2}, {"keeper", 1}, {"collect", 2}, {"small", 3},
         {"begin", 1}, {"step", 9}, {"hide", 4}, {"barrier", 1}, {"finish", 3}, {"poll", 2}, {"keep", 1},
-        {"back", 1}, {"size", 0}, {"path", 3}, {"would", 3}, {"cost", 2}, {"fits", 2},
+        {"back", 1}, {"size", 1}, {"path", 3}, {"would", 3}, {"cost", 2}, {"fits", 2},
         {"ofObject", 2}, {"field", 1}, {"localOf", 1}, {"house", 1}, {"counted", 1},
         {"knock", 1}, {"same", 1}, {"isSound", 1}, {"digest", 1},
     };
@@ -113,6 +113,7 @@ public final class ModelTests {
     private boolean call(String name) throws Exception {
         switch (name) {
             case "hide": return hide();
+            case "size": return random.nextInt(20) > 0 || same(name, wild(16, 128));
             case "make": return same(name, slot(), wild(0, 6), random.nextInt(8) < wishes);
             case "refer": return same(name, slot(), wild(1, 3), object());
             case "local": case "global": return same(name, slot(), objectOrNone());

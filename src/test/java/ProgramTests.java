@@ -73,6 +73,43 @@ public final class ProgramTests {
         halves.collect(false);
         halves.size(20);
         due.is(2, "the half anew", halves.house(10), 0);
+        sizeForgets();
+    }
+
+    /** The same names come again, and nothing of those that had them. */
+    private static void sizeForgets() {
+        Heapkeep heap = new Heapkeep();
+        heap.make(0, 3, true);
+        heap.refer(1, 1, 0);
+        heap.make(2, 2, true);
+        heap.make(3, 1, false);
+        for (int field = 0; field < 3; field++) {
+            heap.store(0, field, 1);
+        }
+        heap.keeper(4);
+        heap.keeper(0);
+        heap.local(2, -1);
+        heap.collect(false);
+        heap.local(0, -1);
+        heap.collect(false);
+        due.is(2, "before", heap.waiting(), "1;2 0");
+        heap.size(32);
+        due.is(2, "waiting anew", heap.waiting(), ";");
+        heap.make(0, 3, false);
+        heap.make(1, 6, false);
+        heap.refer(2, 2, 0);
+        heap.local(3, 0);
+        due.is(2, "shape anew", heap.shape(), "0120 0[-,-,-] 0[-,-,-,-,-,-] 2[]");
+        int[] asked = {heap.ofObject(0, 7), heap.ofObject(0, 3), heap.ofObject(0, 9), heap.ofObject(1, 7), heap.ofObject(1, 9)};
+        due.is(2, "objects anew", java.util.Arrays.toString(asked), "[0, 0, -1, 0, -1]");
+        Heapkeep old = new Heapkeep();
+        old.keeper(4);
+        old.make(0, 0, false);
+        old.small();
+        old.size(16);
+        old.make(0, 0, false);
+        due.is(2, "age anew", old.ofObject(0, 3), 0);
+        due.is(2, "gone by size()", old.free(), "1+15");
     }
 
     private static void make() {
@@ -293,7 +330,10 @@ public final class ProgramTests {
         heap.local(3, -1);
         due.failsAndChangesNothing(7, "a value not reached", Due.STATE, heap, () -> heap.store(0, 1, 3));
         due.failsAndChangesNothing(7, "an object not reached", Due.STATE, heap, () -> heap.store(3, 0, 0));
+        heap.local(0, 1);
+        due.failsAndChangesNothing(7, "an object with fields not reached", Due.STATE, heap, () -> heap.store(0, 1, -1));
         heap.collect(false);
+        due.failsAndChangesNothing(7, "an object with fields gone", Due.STATE, heap, () -> heap.store(0, 1, -1));
         due.failsAndChangesNothing(7, "a value gone", Due.STATE, heap, () -> heap.store(0, 1, 3));
         due.failsAndChangesNothing(7, "an object gone", Due.STATE, heap, () -> heap.store(3, 0, -1));
         due.failsAndChangesNothing(7, "object -1", Due.INDEX, heap, () -> heap.store(-1, 0, 0));
@@ -319,9 +359,11 @@ public final class ProgramTests {
         heap.refer(2, 2, 1);
         due.failsAndChangesNothing(8, "of a reference", Due.STATE, heap, () -> heap.load(0, 2, 0));
         heap.local(2, -1);
-        due.failsAndChangesNothing(8, "not reached", Due.STATE, heap, () -> heap.load(0, 2, 0));
+        heap.local(0, -1);
+        heap.global(0, -1);
+        due.failsAndChangesNothing(8, "not reached", Due.STATE, heap, () -> heap.load(0, 0, 5));
         heap.collect(false);
-        due.failsAndChangesNothing(8, "gone", Due.STATE, heap, () -> heap.load(0, 2, 0));
+        due.failsAndChangesNothing(8, "gone", Due.STATE, heap, () -> heap.load(0, 0, 5));
         due.failsAndChangesNothing(8, "slot -1, named first", Due.INDEX, heap, () -> heap.load(-1, 2, 0));
         due.failsAndChangesNothing(8, "slot 4", Due.INDEX, heap, () -> heap.load(4, 0, 0));
         due.failsAndChangesNothing(8, "object -1", Due.INDEX, heap, () -> heap.load(0, -1, 0));
