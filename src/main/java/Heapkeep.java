@@ -1584,7 +1584,8 @@ public final class Heapkeep {
 
         int goOn(int budget) {
             int work = 0;
-            while (work < budget && heap.cycle.isGoing) {
+            // Each turn is work of 1 at least, so there are no more turns than the greatest budget.
+            for (int turn = 0; turn < MOST_BUDGET && work < budget && heap.cycle.isGoing; turn++) {
                 if (heap.cycle.row.length() > 0) {
                     work += 1 + blackenNext();
                 } else {

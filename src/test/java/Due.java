@@ -13,6 +13,7 @@ final class Due {
 
     private final String title;
     private final Set<Integer> promises = new TreeSet<>();
+    private String sentence = "";
     private int looks;
     private int wrong;
 
@@ -20,12 +21,17 @@ final class Due {
         this.title = title;
     }
 
+    /** The words of the document that what follows holds to; SentenceTests looks whether they stand there. */
+    void sentence(String words) {
+        sentence = " (" + words + ")";
+    }
+
     void is(int promise, String what, Object got, Object due) {
         promises.add(promise);
         looks++;
         if (!String.valueOf(got).equals(String.valueOf(due))) {
             wrong++;
-            System.out.println(title + ", promise " + promise + ": " + what + " is " + got + ", due is " + due);
+            System.out.println(title + ", promise " + promise + ": " + what + " is " + got + ", due is " + due + sentence);
         }
     }
 
@@ -40,11 +46,26 @@ final class Due {
         is(promise, what, got, due.getName());
     }
 
-    /** The call throws, and nothing that the digest tells is another thing afterwards. */
+    /** The call throws, and nothing that can be asked is another thing afterwards. */
     void failsAndChangesNothing(int promise, String what, Class<? extends Exception> due, Heapkeep heap, Call call) {
-        String before = heap.digest() + "|" + heap.shape() + "|" + heap.row();
+        String before = Twins.look(heap);
         fails(promise, what, due, call);
-        is(promise, what + " changes nothing", heap.digest() + "|" + heap.shape() + "|" + heap.row(), before);
+        is(promise, what + " changes nothing", Twins.look(heap), before);
+    }
+
+    /** The call throws, and neither what can be asked nor what comes later is another thing by that. */
+    void refused(int promise, String what, Class<? extends Exception> due, Twins.Maker maker, Twins.Act act) {
+        is(promise, what, changingNothing(promise, what, maker, act), "throws " + due.getName());
+    }
+
+    /** Returns the answer of a call that is to change nothing. */
+    String changingNothing(int promise, String what, Twins.Maker maker, Twins.Act act) {
+        Heapkeep one = maker.make();
+        Heapkeep other = maker.make();
+        String answer = Twins.answer(one, act);
+        is(promise, what + " changes nothing", Twins.look(one), Twins.look(other));
+        is(promise, what + " changes nothing of what comes", Twins.aftermath(one), Twins.aftermath(other));
+        return answer;
     }
 
     void end() {
