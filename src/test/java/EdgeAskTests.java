@@ -25,6 +25,7 @@ public final class EdgeAskTests {
         pathOfNone();
         pathLongest();
         pathSmallest();
+        pathByNames();
         rowOfEach();
         freeOfEach();
         fitsOfNone();
@@ -33,6 +34,7 @@ public final class EdgeAskTests {
         waitingOfEach();
         houseOfNone();
         houseOfFull();
+        houseAlone();
         countedNothing();
         countedOne();
         countedByBack();
@@ -41,6 +43,7 @@ public final class EdgeAskTests {
         digestOfNew();
         digestWraps();
         digestOfAll();
+        digestOfSoft();
         digestBesideKnocks();
         due.end();
     }
@@ -417,6 +420,48 @@ public final class EdgeAskTests {
         due.is(27, "9 is a number, and less than 10", ways.path(11), "9>11");
     }
 
+    /** Neither locals nor fields stand by names here. */
+    private static void pathByNames() {
+        due.sentence("of the shortest ones that whose NAMES are smallest, the first ones weighing most");
+        Heapkeep locals = new Heapkeep();
+        for (int name = 0; name < 4; name++) {
+            locals.make(3 - name, 1, false);
+        }
+        locals.enter();
+        locals.make(0, 0, false);
+        for (int name = 0; name < 4; name++) {
+            locals.store(name, 0, 4);
+        }
+        locals.local(0, -1);
+        for (int name = 0; name < 4; name++) {
+            due.is(27, "of the locals that hold it", locals.path(4), name + ">4");
+            locals.store(name, 0, -1);
+        }
+        due.is(27, "none", locals.path(4), "");
+        int[][] orders = {{6, 5, 4, 3, 2, 1}, {3, 6, 1, 5, 2, 4}, {1, 2, 3, 4, 5, 6}, {2, 1, 4, 3, 6, 5}};
+        for (int[] order : orders) {
+            Heapkeep fields = new Heapkeep();
+            fields.make(0, 6, false);
+            for (int name = 1; name <= 6; name++) {
+                fields.make(1, 1, false);
+                for (int field = 0; field < 6; field++) {
+                    if (order[field] == name) {
+                        fields.store(0, field, name);
+                    }
+                }
+            }
+            fields.make(1, 0, false);
+            for (int name = 1; name <= 6; name++) {
+                fields.store(name, 0, 7);
+            }
+            fields.local(1, -1);
+            for (int name = 1; name <= 6; name++) {
+                due.is(27, "of the fields that hold it", fields.path(7) + " " + fields.path(name), "0>" + name + ">7 0>" + name);
+                fields.store(name, 0, -1);
+            }
+        }
+    }
+
     // ---- cells
 
     private static void rowOfEach() {
@@ -570,6 +615,27 @@ public final class EdgeAskTests {
         for (int what = 0; what <= 12; what++) {
             due.is(37, "in a cycle, " + what, heap.house(what), cycle[what]);
         }
+    }
+
+    private static void houseAlone() {
+        due.sentence("5 FREE CELLS, 6 the longest RANGE (0), 7 REACHED ones");
+        Heapkeep heap = new Heapkeep();
+        int[] longest = {64, 57, 50, 43};
+        for (int i = 0; i < longest.length; i++) {
+            due.is(37, "the longest range, asked alone", heap.house(6), longest[i]);
+            heap.make(i, 6, false);
+        }
+        heap.local(1, -1);
+        heap.collect(false);
+        due.is(37, "the longest one of two", heap.house(6), 36);
+        heap.local(3, -1);
+        heap.local(2, -1);
+        heap.collect(false);
+        due.is(37, "cells that are free", heap.house(5), 57);
+        heap.local(0, -1);
+        due.is(37, "reached ones", heap.house(7), 0);
+        heap.collect(false);
+        due.is(37, "the longest range, asked alone", heap.house(6), 64);
     }
 
     private static void countedNothing() {
@@ -762,6 +828,23 @@ public final class EdgeAskTests {
             }
             heap.back();
             due.is(41, "back", heap.digest(), wrapped(unboundedOf(heap)));
+        }
+    }
+
+    private static void digestOfSoft() {
+        due.sentence("would() that is not HARD, would() that is HARD; fits() of 1 to 7; cost() of 0 to 6");
+        for (int keeper = 0; keeper <= 6; keeper++) {
+            Heapkeep heap = new Heapkeep();
+            heap.keeper(keeper);
+            heap.make(0, 3, true);
+            heap.make(1, 2, false);
+            heap.refer(1, 2, 1);
+            heap.make(3, 1, false);
+            heap.store(3, 0, 3);
+            heap.local(3, -1);
+            heap.local(0, -1);
+            due.is(31, "a hard one takes more", heap.would(false) + "/" + heap.would(true), "3/1 3");
+            due.is(41, "of what is held softly, keeper " + keeper, heap.digest(), wrapped(unboundedOf(heap)));
         }
     }
 

@@ -364,6 +364,10 @@ public final class EdgeCellTests {
 
     private static void bestOfSeveral() {
         due.sentence("(of several the first one)");
+        for (int size : new int[] {16, 127, 128}) {
+            Heapkeep whole = holes(size, 1);
+            due.is(30, "all cells are one range", whole.free() + " " + fits(whole), "0+" + size + " 0 0 0 0 0 0 0");
+        }
         Heapkeep heap = holes(20, 1, -4, 1, -2, 1, -2, 1, -4, 1);
         due.is(29, "ranges", heap.free(), "0+4 5+2 8+2 11+4 16+4");
         due.is(30, "the first of each length", fits(heap), "5 5 0 0 -1 -1 -1");

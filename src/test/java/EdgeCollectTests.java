@@ -27,6 +27,7 @@ public final class EdgeCollectTests {
         hardOfSoftChain();
         copyRoots();
         copyBySoft();
+        copyPending();
         copyEmptied();
         slide();
         slideNothing();
@@ -487,6 +488,20 @@ public final class EdgeCollectTests {
         heap.collect(false);
         due.is(13, "by rows", heap.row(), "32:0 34:2 36:3 37:1");
         due.is(13, "one goes", heap.collect(true) + " " + heap.row(), "1 0:0 2:2 4:3");
+    }
+
+    private static void copyPending() {
+        due.sentence("first ROOTS in their order, then what they lead to");
+        Heapkeep heap = by(2);
+        heap.make(0, 1, false);
+        heap.make(1, 0, false);
+        heap.store(0, 0, 1);
+        heap.make(2, 0, true);
+        heap.refer(3, 1, 2);
+        heap.local(1, -1);
+        heap.local(2, -1);
+        due.is(13, "cleared, and pending", heap.collect(false) + " " + heap.waiting(), "0 3;2");
+        due.is(13, "what is pending now, ahead of what a local leads to", heap.row(), "32:0 34:3 36:2 37:1");
     }
 
     private static void copyEmptied() {

@@ -20,6 +20,7 @@ public final class EdgeCycleTests {
         endOfNoneToGo();
         blackIsKept();
         blackLeads();
+        blackLeadsSoftly();
         lostChain();
         lostTwice();
         guardedLosesNone();
@@ -363,6 +364,27 @@ public final class EdgeCycleTests {
         due.is(16, "kept, and not lost", heap.row() + " " + heap.counted(5), "0:0 2:1 4:2 0");
     }
 
+    /** A reference that is made in a cycle is black, and never leads to its referent by a step. */
+    private static void blackLeadsSoftly() {
+        due.sentence("with SEEN being all BLACK ones and ROOTS, and all that these lead to");
+        for (int kind = 1; kind <= 3; kind++) {
+            Heapkeep heap = by(0, false);
+            heap.make(0, 0, false);
+            heap.make(1, 1, false);
+            heap.store(1, 0, 0);
+            heap.local(0, -1);
+            heap.begin();
+            heap.load(0, 1, 0);
+            heap.refer(2, kind, 0);
+            heap.store(1, 0, -1);
+            heap.local(0, -1);
+            due.is(24, "white", heap.ofObject(0, 5) + " " + heap.grey() + " " + heap.unseen(), "0 1 ");
+            due.is(16, "the end", heap.step(60), 2 + 1 + 3);
+            due.is(16, "a soft one keeps it, by the kind " + kind, heap.row() + " " + heap.waiting() + " " + heap.ofObject(2, 9),
+                    kind == 2 ? "0:0 1:1 3:2 ; 0" : "1:1 3:2 2; -1");
+        }
+    }
+
     /** 0 is black, 1 is grey and held 2, which holds 3: both come to 0, and are white. */
     private static Heapkeep hidden(int store, boolean isRead) {
         Heapkeep heap = by(store, isRead);
@@ -651,6 +673,16 @@ public final class EdgeCycleTests {
         due.is(36, "all are grey", heap.unseen() + heap.grey(), "1 2 3");
         heap.collect(false);
         due.is(36, "broken off", heap.unseen(), "");
+        Heapkeep first = by(0, false);
+        first.make(0, 0, false);
+        first.make(1, 1, false);
+        first.store(1, 0, 0);
+        first.local(0, -1);
+        first.begin();
+        first.load(0, 1, 0);
+        first.make(2, 1, false);
+        first.store(2, 0, 0);
+        due.is(36, "the first name of all", first.unseen(), "0");
     }
 
     private static void cycleInPicture() {

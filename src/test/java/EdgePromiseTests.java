@@ -7,6 +7,7 @@ public final class EdgePromiseTests {
         byRisingNumbers();
         sizeReturns();
         sizeForgetsAll();
+        sizeForgetsObjects();
         makeHolds();
         referHolds();
         localHolds();
@@ -90,6 +91,38 @@ public final class EdgePromiseTests {
             Heapkeep other = new Heapkeep();
             other.knock();
             due.is(2, "and so it goes on, keeper " + keeper, Twins.aftermath(heap), Twins.aftermath(other));
+        }
+    }
+
+    /** The same names come to others, of other kinds. */
+    private static void sizeForgetsObjects() {
+        due.sentence("no OBJECTS (NAMES begin with 0)");
+        for (int turn = 0; turn < 2; turn++) {
+            Heapkeep heap = by(4);
+            for (int name = 0; name < 6; name++) {
+                if (name % 2 == turn || name == 0) {
+                    heap.make(name % 4, 6, true);
+                    for (int field = 0; field < 6; field++) {
+                        heap.store(name, field, name);
+                    }
+                } else {
+                    heap.refer(name % 4, 2, name - 1);
+                }
+            }
+            heap.small();
+            heap.size(64);
+            for (int name = 0; name < 6; name++) {
+                if (name % 2 != turn || name == 0) {
+                    due.is(3, "a name again", heap.make(name % 4, 6, false), name);
+                    due.is(25, "its fields", heap.field(name, 0) + " " + heap.field(name, 1) + " " + heap.field(name, 5), "-1 -1 -1");
+                } else {
+                    due.is(4, "a name again", heap.refer(name % 4, 1, name - 1), name);
+                    due.is(25, "no fields", heap.field(name, 0) + " " + heap.ofObject(name, 1), "-9 0");
+                }
+                due.is(24, "no wish, no age", heap.ofObject(name, 7) + " " + heap.ofObject(name, 3), "0 0");
+                due.is(24, "its referent", heap.ofObject(name, 9), name % 2 != turn || name == 0 ? -1 : name - 1);
+                due.is(24, "counted anew", heap.ofObject(name, 4), 1);
+            }
         }
     }
 
