@@ -8,6 +8,7 @@ public final class EdgeCellTests {
         namesRefused();
         cellsOfEach();
         fieldsAtFirst();
+        fieldsStay();
         cleared();
         framesFull();
         framesEmptyAnew();
@@ -167,6 +168,33 @@ public final class EdgeCellTests {
         for (int kind = 1; kind <= 3; kind++) {
             int name = heap.refer(kind, kind, 0);
             due.is(24, "fields of a reference", heap.ofObject(name, 1) + " " + heap.field(name, 0) + " " + heap.field(name, 5), "0 -9 -9");
+        }
+    }
+
+    /** Each object holds itself in all its fields, while others come and go. */
+    private static void fieldsStay() {
+        due.sentence("Each FIELD holds an OBJECT or NONE (at first).");
+        for (int keeper = 0; keeper <= 6; keeper++) {
+            Heapkeep heap = new Heapkeep();
+            heap.size(128);
+            heap.keeper(keeper);
+            StringBuilder shape = new StringBuilder("0123");
+            for (int name = 0; name < 4; name++) {
+                heap.make(name, 6, false);
+                for (int field = 0; field < 6; field++) {
+                    heap.store(name, field, name);
+                }
+                shape.append(" 0[" + name + "," + name + "," + name + "," + name + "," + name + "," + name + "]");
+                due.is(25, "the fields of " + name, heap.field(name, 0) + " " + heap.field(name, 5), name + " " + name);
+            }
+            due.is(23, "all fields", heap.shape(), shape.toString());
+            heap.enter();
+            heap.make(0, 6, false);
+            heap.refer(0, 1, 0);
+            heap.collect(true);
+            heap.small();
+            heap.leave();
+            due.is(23, "all fields still", heap.shape(), shape.toString());
         }
     }
 
